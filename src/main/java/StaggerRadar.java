@@ -1136,8 +1136,10 @@ public final class StaggerRadar {
                 return;
             }
             int first = row * PLACES;
-            Arrays.fill(targets, first, first + PLACES, 0);
-            Arrays.fill(loud, first, first + PLACES, 0);
+            for (int place = 0; place < PLACES; place++) {
+                targets[first + place] = 0;
+                loud[first + place] = 0;
+            }
             for (int t = 0; t < radar.targetCount; t++) {
                 if (radar.sees(t, gap)) {
                     int cell = first + rest(radar.rangeOf(t), gap);
