@@ -204,6 +204,9 @@ public final class PromisesTest {
         fault(";", 1, 0);
         fault(" gapp 10;", 1, 1);
         fault("ga 10;", 1, 0);
+        fault("cap 10;", 1, 0);
+        fault("gapz 10;", 1, 0);
+        fault("agap 10;", 1, 0);
         fault("Gap 10;", 1, 0);
         fault("gaP 10;", 1, 0);
         fault("gap\t10;", 1, 3);
@@ -327,6 +330,7 @@ public final class PromisesTest {
         x.target(20, 2, 6);
         x.target(30, 3, 7);
         due("-1", x.leave(-1), NONE);
+        due("far off", x.leave(Integer.MAX_VALUE), NONE);
         due("3", x.leave(3), NONE);
         due("1 goes", x.leave(1), 2);
         due("those behind come up", x.targetOf(1, 0) * 100 + x.targetOf(1, 2) * 10 + x.targetOf(1, 3), 3037);
@@ -363,6 +367,9 @@ public final class PromisesTest {
         fast.target(1000, 500, 1);
         fast.target(1000, -500, 1);
         due("1000 at once", fast.move(1000), 2);
+        fast.target(2999, 16, 1);
+        fast.target(0, -1, 1);
+        due("48000 and -1 are out", fast.move(1), 2);
     }
 
     private static void look() {
@@ -470,6 +477,18 @@ public final class PromisesTest {
         for (int what = 0; what < due.length; what++) {
             due("count(" + what + ")", x.count(what), due[what]);
         }
+        due("a target that place 0 hides is MISSED", radarOf("gap 10;gap 12;go 60 7 1;").count(15), 1);
+        StaggerRadar zero = radarOf("pulse 0;gap 10;gap 12;go 60 7 1;limit 121;");
+        due("0, 60, 120 are FOUND", zero.count(13), 3);
+        due("0, 120 are GHOSTS", zero.count(14), 2);
+        due("one in the PICTURE", zero.count(16), 1);
+        zero.set(LIMIT, 120);
+        due("0, 60", zero.count(13), 2);
+        zero.set(LIMIT, 60);
+        due("0", zero.count(13), 1);
+        due("60 is not below LIMIT", zero.count(15), 0);
+        StaggerRadar five = radarOf("gap 10;gap 11;gap 13;gap 17;gap 19;go 53 7 20;");
+        due("ECHOES of five gaps", five.count(12), 5);
         due("count(-1)", x.count(-1), NONE);
         due("count(20)", x.count(20), NONE);
         due("far off", x.count(Integer.MIN_VALUE), NONE);
@@ -523,6 +542,10 @@ public final class PromisesTest {
         due("by SPAN", gapOf(x, 0, 3), 0);
         x.set(PULSE, 4);
         due("by PULSE", gapOf(x, 0, 2), 2);
+        StaggerRadar slow = radarOf("gap 10;notch 10;span 1;pulse 0;go 60 7 1;go 60 2 1;");
+        due("speed 1: 10", gapOf(slow, 0, 3), 1);
+        due("place 0 without PULSE", gapOf(slow, 0, 1), 1);
+        due("speed 7: 10", gapOf(slow, 0, 2), 2);
         due("-1", gapOf(x, -1, 0), -7);
         due("2", gapOf(x, 2, 0), -7);
         due("what -1", gapOf(x, 0, -1), -7);
@@ -661,6 +684,8 @@ public final class PromisesTest {
         due("whatever", x.joined(-1, -1, 99, 99, 99), 0);
         due("0, 0", x.joined(0, 0, -1, -1, -1), 0);
         due("9, 11", x.joined(9, 11, -1, -1, -1), 59);
+        due("0, 8", x.joined(0, 8, -1, -1, -1), 20);
+        due("8, 0", x.joined(8, 0, -1, -1, -1), 48);
         due("no such place", x.joined(10, -1, -1, -1, -1), NONE);
         due("no such place", x.joined(-1, 12, -1, -1, -1), NONE);
         due("far off", x.joined(Integer.MAX_VALUE, Integer.MIN_VALUE, 0, 0, 0), NONE);
@@ -688,6 +713,7 @@ public final class PromisesTest {
         due("no such place", x.at(0, -1, false), NONE);
         due("no such gap", x.at(2, 0, false), NONE);
         due("no such gap", x.at(-1, 0, false), NONE);
+        due("place 0", x.at(0, 0, false), 0);
         x.set(FLOOR, 200);
         due("FLOOR is of ECHOES", x.at(0, 3, false), 3);
         x.set(PULSE, 4);
@@ -707,6 +733,8 @@ public final class PromisesTest {
         due("0", x.hits(0), 0);
         due("beyond LIMIT", x.hits(53 + 60 * 165), 3);
         due("9999", x.hits(9999), 2);
+        due("five gaps", radarOf("gap 10;gap 11;gap 13;gap 17;gap 19;go 53 7 20;").hits(53), 31);
+        due("place 0", radarOf("pulse 0;gap 10;gap 12;go 60 7 1;").hits(0), 3);
         due("10000", x.hits(10000), NONE);
         due("-1", x.hits(-1), NONE);
         x.set(FLOOR, 21);
@@ -736,6 +764,7 @@ public final class PromisesTest {
         x.set(NEED, 3);
         due("NEED", x.found(0, false), NONE);
         x.set(NEED, 1);
+        due("0", radarOf("pulse 0;gap 10;gap 12;go 60 7 1;").found(0, true), 0);
         due("NEED 1", x.found(0, false), 3);
         due("NEED 1", x.found(1, false), 5);
         due("NEED 1", x.found(2, false), 13);
@@ -781,6 +810,9 @@ public final class PromisesTest {
         due("3, BLIND by 10", three.picture(1, false), 3);
         due("3, BLIND by 10", three.picture(1, true), 2);
         due("no more", three.picture(2, false), NONE);
+        StaggerRadar zero = radarOf("pulse 0;gap 10;gap 12;go 60 7 1;");
+        due("0 is the least", zero.picture(0, false), 0);
+        due("five", radarOf("gap 10;gap 11;gap 13;gap 17;gap 19;go 53 7 20;").picture(0, true), 5);
         three.set(LIMIT, 7);
         due("below LIMIT", three.picture(0, false), 3);
     }
@@ -812,6 +844,9 @@ public final class PromisesTest {
         due("the least number alone", x.pairs(1), 5);
         x.target(43, 0, 1);
         due("a TARGET's RANGE, SEEN or not", x.pairs(2), 1);
+        StaggerRadar zero = radarOf("pulse 0;gap 10;gap 12;go 60 7 1;");
+        due("0 is the number", zero.pairs(1), 1);
+        due("0 is a GHOST", zero.pairs(2), 1);
         x.gap(59, false);
         x.gap(10, true);
         x.gap(12, true);
@@ -877,6 +912,23 @@ public final class PromisesTest {
         due("in line", two.track(NONE, 0), 2);
         due("20, 21, 22", two.track(0, 2), 22);
         due("30, 30, 30", two.track(1, 2), 30);
+        two.move(1);
+        two.look();
+        due("in line", two.track(NONE, 0), 2);
+        for (int look = 0; look < 4; look++) {
+            due("20, 21, 22, 23", two.track(0, look), 20 + look);
+            due("30, 30, 30, 30", two.track(1, look), 30);
+        }
+        two.move(1);
+        two.look();
+        due("the oldest LOOK went", two.track(0, 0), 21);
+        due("PACE from the first LOOK that is there", two.track(0, 10), 16);
+        StaggerRadar later = radarOf("wave 61;gap 50;gap 49;go 20 31 9;");
+        later.move(1);
+        later.look();
+        later.move(1);
+        later.look();
+        due("PACE from 1 to 2: 21, 23", later.track(0, 10), 32);
         StaggerRadar line = radarOf("wave 61;gap 50;gap 49;go 20 24 9;");
         line.look();
         line.move(1);
@@ -923,9 +975,31 @@ public final class PromisesTest {
         due("what 1", x.order(2, 1), NONE);
         due("what 9", x.order(2, 9), NONE);
         due("far off", x.order(2, Integer.MAX_VALUE), NONE);
+        StaggerRadar three = radarOf("gap 5;gap 7;gap 9;go 12 1 1;");
+        // 5 and 7 side by side make 12.
+        dueOrder(three, 4, 0, 5, 9, 7);
+        three.target(16, 1, 1);
+        // 7 and 9 make 16: 5, 7, 9 hides two, 5, 9, 7 one, and no order fewer.
+        dueOrder(three, 4, 1, 5, 9, 7);
+        three = radarOf("gap 5;gap 7;gap 9;go 5 1 1;");
+        dueOrder(three, 2, 0, 7, 5, 9);
+        dueOrder(three, 3, 0, 7, 9, 5);
+        three.target(7, 1, 1);
+        dueOrder(three, 2, 0, 9, 5, 7);
+        three.leave(0);
+        three.target(9, 1, 1);
+        dueOrder(three, 2, 0, 5, 7, 9);
+        dueOrder(three, 3, 1, 5, 7, 9);
+        three.target(12, 1, 1);
+        dueOrder(three, 3, 1, 5, 9, 7);
         StaggerRadar five = radarOf("gap 5;gap 6;gap 7;gap 8;gap 9;go 5 1 1;go 11 1 1;go 18 1 1;");
         due("five by 4 pulses", five.order(4, 0), 0);
         due("no target", radarOf("gap 9;gap 5;gap 7;").order(9, 12), 9);
+    }
+
+    private static void dueOrder(StaggerRadar x, int n, int hidden, int a, int b, int c) {
+        due("hidden of " + n, x.order(n, 0), hidden);
+        due("order of " + n, x.order(n, 10) * 100 + x.order(n, 11) * 10 + x.order(n, 12), a * 100 + b * 10 + c);
     }
 
     private static void choose() {
@@ -962,6 +1036,10 @@ public final class PromisesTest {
         x.set(WAVE, 61);
         due("all of four", x.choose(4, 40, 60, 0), 5985);
         due("low to high", x.choose(4, 57, 60, 13), 60);
+        StaggerRadar wide = radarOf("wave 101;limit 1;span 100;need 5;");
+        due("only 101 is BLIND", wide.choose(4, 10, 20, 0), 330);
+        wide.set(SPAN, 101);
+        due("by each gap", wide.choose(4, 10, 20, 0), 0);
         due("too few", x.choose(4, 58, 60, 0), 0);
         due("too few", x.choose(4, 58, 60, 1), NONE);
         due("one alone", x.choose(2, 9, 9, 0), 0);
@@ -996,6 +1074,9 @@ public final class PromisesTest {
         due("all alike", x.more(false), 4);
         x.set(WAVE, 61);
         due("all alike", x.more(false), 4);
+        // Not BLIND from 50 to 73: by 60 speeds 1, 3, 5 (60, 57, 54); by no lesser gap three of five.
+        due("the largest one", radarOf("need 1;span 5;wave 123;notch 49;").more(false), 60);
+        due("4 is BLIND to 1", radarOf("need 1;span 1;wave 4;").more(false), 5);
         StaggerRadar y = radarOf("gap 10;gap 12;go 53 7 20;limit 100;");
         // Found: 53; a third gap g adds echoes at 53 mod g; 3 (mod 10) and 5 (mod 12) below 100 may meet it.
         int best = 0;
@@ -1087,8 +1168,12 @@ public final class PromisesTest {
         due("the same one of 5 is 1", x.dwell(0, 3, 2, 0), 19);
         due("the same one of 3 is 2", x.dwell(0, 3, 1, 0), 22);
         due("longest", x.dwell(0, 3, 1, 4), 13);
-        due("without sign", x.dwell(-1, 2, 1, 0), 10 - 1 + draw(-1, 3));
-        due("without sign", x.dwell(12345, 2, 3, 0), 10 - 3 + draw(12345, 7));
+        due("longest of two", x.dwell(1, 2, 0, 4), 10);
+        for (int i = 0; i < 100; i++) {
+            int seed = i * 123456789;
+            due("without sign, " + seed, x.dwell(seed, 2, 1, 0), 10 - 1 + draw(seed, 3));
+            due("without sign, " + seed, x.dwell(seed, 2, 3, 0), 10 - 3 + draw(seed, 7));
+        }
     }
 
     private static int draw(int seed, int below) {
@@ -1123,6 +1208,11 @@ public final class PromisesTest {
         lost.set(PULSE, 2);
         // At 16 the one is at 2, but the other is GONE since 1.
         due("the other is GONE", lost.until(0, 20), NONE);
+        due("one gap alone", radarOf("gap 10;gap 12;go 53 5 1;").until(0, 200), NONE);
+        due("below FLOOR", radarOf("gap 10;gap 12;floor 21;go 53 7 20;").until(0, 200), NONE);
+        due("LIMIT", radarOf("gap 10;gap 12;limit 53;go 53 7 20;").until(0, 200), NONE);
+        due("below LIMIT", radarOf("gap 10;gap 12;limit 54;go 53 7 20;").until(0, 200), 0);
+        due("at 0 it is there", radarOf("gap 10;gap 12;pulse 0;limit 1;come 1 16 5;").until(0, 5), 1);
         StaggerRadar behind = radarOf("gap 10;gap 12;come 0 3 1;go 60 7 1;");
         due("one ahead of it is GONE", behind.until(1, 200), 3);
     }
@@ -1143,6 +1233,9 @@ public final class PromisesTest {
         due("the later one", x.count(0), 3);
         x.again(1);
         due("the earlier one", x.count(0), 2);
+        x.gap(9, false);
+        due("the third one", x.again(2), true);
+        due("the third one", x.count(0), 2);
     }
 
     private static void again() {
