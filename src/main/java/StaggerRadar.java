@@ -1604,6 +1604,7 @@ public final class StaggerRadar {
         private int width;
         private int limit;
         private int needed;
+        private int parts;
         final int[] best = new int[MOST_CHOSEN];
         int leastSum;
         int fitCount;
@@ -1614,6 +1615,7 @@ public final class StaggerRadar {
             width = Math.min(to - from + 1, CHOICES);
             limit = radar.settings[LIMIT];
             needed = Math.min(radar.settings[NEED], k);
+            parts = Math.min((radar.settings[SPAN] + 63) / 64, PARTS);
             fitCount = 0;
             leastSum = Integer.MAX_VALUE;
             openAll(radar);
@@ -1648,7 +1650,8 @@ public final class StaggerRadar {
             }
             for (int i = from; i < width; i++) {
                 int gap = low + i;
-                int wider = leastCommon(reach, gap);
+                // REACH never grows less by a further gap, so beyond LIMIT its value is of no matter.
+                int wider = reach >= limit ? reach : leastCommon(reach, gap);
                 chosen[depth] = gap;
                 if (depth + 1 < size) {
                     addChoice(depth, i);
@@ -1664,24 +1667,25 @@ public final class StaggerRadar {
                 return;
             }
             for (int times = 1; times <= needed; times++) {
-                for (int part = 0; part < PARTS; part++) {
-                    enough[cellOf(depth + 1, times) + part] = speedsWith(depth, i, times, part);
+                int after = cellOf(depth + 1, times);
+                int before = cellOf(depth, times);
+                int fewer = cellOf(depth, times - 1);
+                for (int part = 0; part < parts; part++) {
+                    enough[after + part] = enough[before + part] | enough[fewer + part] & open[i * PARTS + part];
                 }
             }
         }
 
         private boolean opensAll(int depth, int i) {
-            for (int part = 0; part < PARTS; part++) {
-                if (speedsWith(depth, i, needed, part) != all[part]) {
+            int before = cellOf(depth, needed);
+            int fewer = cellOf(depth, needed - 1);
+            for (int part = 0; part < parts; part++) {
+                long after = enough[before + part] | enough[fewer + part] & open[i * PARTS + part];
+                if (after != all[part]) {
                     return false;
                 }
             }
             return true;
-        }
-
-        private long speedsWith(int depth, int i, int times, int part) {
-            long before = enough[cellOf(depth, times) + part];
-            return before | enough[cellOf(depth, times - 1) + part] & open[i * PARTS + part];
         }
 
         private void keepFit(int sum) {
