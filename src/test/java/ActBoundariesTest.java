@@ -433,6 +433,23 @@ public final class ActBoundariesTest {
         due("NOW of the latest one", x.look(), NONE);
     }
 
+    @Boundaries.Sentence(promise = 10, says = "a 5th one: the oldest goes (with as many numbers as it had)")
+    static void fifthLookOfAnotherSize() {
+        for (int none = 0; none < 6; none++) {
+            StaggerRadar x = radarOf("wave 61;gap 49;gap 50;");
+            for (int i = 0; i < 6; i++) {
+                x.leave(0);
+                if (i != none) {
+                    x.target(20, 7, 9);
+                }
+                due("numbers", x.look(), i == none ? 0 : 1);
+                boolean among = none <= i && none > i - 4;
+                due("LOOK " + none + " of " + i + " has none: TRACKS", x.track(NONE, 0), among || i == 0 ? 0 : 1);
+                x.move(1);
+            }
+        }
+    }
+
     /** One target, at that range, a look, and time goes on by 1. */
     private static void lookAt(StaggerRadar x, int range) {
         x.leave(0);

@@ -90,6 +90,16 @@ public final class FutureBoundariesTest {
         due("the last order of all: falling", radarOf("gap 4;gap 6;go 4 7 1;").order(2, 10), 6);
     }
 
+    @Boundaries.Sentence(promise = 28, says = "of all orders of the GAPS (the last one, too)")
+    static void lastOrder() {
+        StaggerRadar x = radarOf("gap 4;gap 6;gap 8;gap 11;gap 12;pulse 5;go 36 7 1;go 70 7 1;");
+        int[] falling = {12, 11, 8, 6, 4};
+        for (int i = 0; i < 5; i++) {
+            due("GAP " + i, x.order(12, 10 + i), falling[i]);
+        }
+        due("HIDDEN", x.order(12, 0), 3);
+    }
+
     @Boundaries.Sentence(promise = 28, says = "HIDDEN, if any PULSE was sent at that time, or less than PULSE ahead of it")
     static void orderHidden() {
         StaggerRadar x = radarOf("gap 10;go 12 7 1;");
@@ -218,6 +228,83 @@ public final class FutureBoundariesTest {
         due("1 by 5 and 6", x.choose(2, 5, 6, 0), 1);
     }
 
+    @Boundaries.Sentence(promise = 29, says = "each SPEED from 1 to SPAN, 1 to 200 (the one SPEED that is BLIND is SPAN, one more)")
+    static void fitBySpeeds() {
+        // A WAVE above 60 that nothing goes into: WAVE is the least SPEED above 0 that is BLIND, by all.
+        for (int wave : new int[] {61, 67, 71, 97, 101, 127, 131, 157, 191, 193, 197, 199}) {
+            StaggerRadar x = radarOf("limit 1;wave " + wave + ";");
+            for (int need = 1; need <= 5; need += 2) {
+                x.set(NEED, need);
+                for (int k = 2; k <= 4; k++) {
+                    x.set(SPAN, wave - 1);
+                    due("WAVE " + wave + ", one less", x.choose(k, 40, 44, 0), k == 2 || k == 3 ? 10 : 5);
+                    x.set(SPAN, wave);
+                    due("WAVE " + wave, x.choose(k, 40, 44, 0), 0);
+                }
+            }
+        }
+        StaggerRadar all = radarOf("limit 1;wave 211;span 200;");
+        due("none up to 200", all.choose(4, 40, 60, 0), 5985);
+    }
+
+    @Boundaries.Sentence(promise = 29, says = "FIT, each SPEED from 1 to SPAN is not BLIND by NEED of them or more (each set by itself)")
+    static void fitOneByOne() {
+        for (int wave : new int[] {60, 66, 90, 130, 180, 198, 200}) {
+            for (int span : new int[] {63, 64, 65, 127, 128, 129, 191, 192, 193, 200}) {
+                for (int need = 1; need <= 4; need++) {
+                    dueFit(wave, span, need);
+                }
+            }
+        }
+    }
+
+    private static void dueFit(int wave, int span, int need) {
+        StaggerRadar x = radarOf("limit 100;wave " + wave + ";span " + span + ";need " + need + ";notch 1;");
+        for (int k = 2; k <= 4; k++) {
+            int size = 0;
+            int least = FAR_ABOVE;
+            for (int bits = 0; bits < 1 << 8; bits++) {
+                if (Integer.bitCount(bits) == k && isFit(bits, wave, span, Math.min(need, k))) {
+                    size++;
+                    int sum = 0;
+                    for (int i = 0; i < 8; i++) {
+                        sum += (bits >> i & 1) * (13 + i);
+                    }
+                    least = Math.min(least, sum);
+                }
+            }
+            String what = k + " of WAVE " + wave + ", SPAN " + span + ", NEED " + need;
+            due(what, x.choose(k, 13, 20, 0), size);
+            due(what + " together", x.choose(k, 13, 20, 1), size == 0 ? NONE : least);
+        }
+    }
+
+    /** GAPS 13 to 20 as bits, LIMIT 100, NOTCH 1. */
+    private static boolean isFit(int bits, int wave, int span, int need) {
+        int reach = 1;
+        while (reach < 100 && !allGoInto(bits, reach)) {
+            reach++;
+        }
+        boolean fit = reach >= 100;
+        for (int v = 1; v <= span; v++) {
+            int open = 0;
+            for (int i = 0; i < 8; i++) {
+                int shift = v * (13 + i) % wave;
+                open += (bits >> i & 1) != 0 && shift > 1 && shift < wave - 1 ? 1 : 0;
+            }
+            fit &= open >= need;
+        }
+        return fit;
+    }
+
+    private static boolean allGoInto(int bits, int number) {
+        boolean all = true;
+        for (int i = 0; i < 8; i++) {
+            all &= (bits >> i & 1) == 0 || number % (13 + i) == 0;
+        }
+        return all;
+    }
+
     @Boundaries.Sentence(promise = 29, says = "(by all, if there are fewer than NEED)")
     static void fitByAll() {
         StaggerRadar x = radarOf("limit 1;span 15;");
@@ -329,6 +416,30 @@ public final class FutureBoundariesTest {
         dueBest("gap 60;gap 30;pulse 0;limit 100;go 0 7 1;go 60 7 1;go 30 1 1;");
         dueBest("need 2;gap 4;limit 1;pulse 0;go 8 1 1;");
         dueBest("need 5;gap 10;gap 12;gap 15;gap 16;span 200;go 5 7 20;go 7 3 4;");
+        // Each gap makes GHOSTS; by 59 both are heard at 10, by 60 they are not at one place.
+        dueBest("wave 61;need 1;limit 1000;go 10 7 1;go 69 7 1;");
+    }
+
+    @Boundaries.Sentence(promise = 30, says = "The GAP, 4 to 60 (asked first, asked again, asked when all is other)")
+    static void moreAskedAgain() {
+        String ghosts = "wave 61;need 1;limit 1000;go 10 7 1;go 69 7 1;";
+        due("asked first", radarOf(ghosts).more(true), 59);
+        StaggerRadar x = radarOf(ghosts);
+        due("none is DARK by 4", x.more(false), 4);
+        due("asked then", x.more(true), 59);
+        due("asked again", x.more(true), 59);
+        due("none is DARK by 4 still", x.more(false), 4);
+        x.set(NEED, 2);
+        due("of none, by NEED 2, no GHOSTS", x.more(true), 4);
+        x.gap(59, false);
+        due("10 and 69 are at 10", x.more(true), radarOf(ghosts + "need 2;gap 59;").more(true));
+        StaggerRadar y = radarOf("need 1;notch 5;span 5;");
+        int first = y.more(false);
+        due("asked again", y.more(false), first);
+        y.set(NOTCH, 20);
+        due("as if asked first", y.more(false), radarOf("need 1;notch 20;span 5;").more(false));
+        y.set(NOTCH, 0);
+        due("as if asked first", y.more(false), radarOf("need 1;span 5;").more(false));
     }
 
     // ---- promise 31
@@ -538,6 +649,22 @@ public final class FutureBoundariesTest {
         StaggerRadar all = radarOf("gap 4;pulse 9;" + Boundaries.many("go 5 7 1;", 8));
         due("all: 5 behind its own", all.dwell(1, 64, 0, 3), 512);
         due("all are LATE", all.dwell(1, 64, 0, 2), 512);
+    }
+
+    @Boundaries.Sentence(promise = 32, says = "HIDDEN: less than PULSE ahead of it (each PULSE, 0 to 9)")
+    static void hiddenJust() {
+        for (int pulse = 0; pulse <= 9; pulse++) {
+            for (int behind = 0; behind <= 10; behind++) {
+                StaggerRadar x = radarOf("gap 20;pulse " + pulse + ";go " + behind + " 7 1;");
+                int due = behind == 0 || behind < pulse ? 1 : 0;
+                due(behind + " behind its own, PULSE " + pulse, x.dwell(1, 1, 0, 3), due);
+                x.leave(0);
+                x.target(20 + behind, 7, 1);
+                due(behind + " behind the next one, PULSE " + pulse, x.dwell(1, 2, 0, 3), due);
+                due("as for an ORDER", x.order(2, 0), due);
+                due("the last one's next is not sent", x.dwell(1, 1, 0, 3), 0);
+            }
+        }
     }
 
     @Boundaries.Sentence(promise = 32, says = "4: the longest time between two PULSES (0 of one)")

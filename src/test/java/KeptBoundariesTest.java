@@ -59,6 +59,31 @@ public final class KeptBoundariesTest {
         due("9", x.gapOf(0, 0), 9);
     }
 
+    @Boundaries.Sentence(promise = 34, says = "THE TEXT, the FAULT, too (another one, none, in its place)")
+    static void faultIsKept() {
+        StaggerRadar x = new StaggerRadar();
+        x.image(0);
+        Boundaries.read(x, "wave 7;gap 10;gap 10;");
+        Boundaries.typeAll(x, "gap 44;");
+        x.image(1);
+        Boundaries.typeAll(x, " gap 45");
+        x.read();
+        due("1, the end", x.fault(false) * 100 + x.fault(true), 114);
+        due("again", x.again(1), true);
+        due("3", x.fault(false), 3);
+        due("at 18", x.fault(true), 18);
+        due("bytes", x.count(18), 7);
+        due("again", x.again(0), true);
+        due("none", x.fault(false), 0);
+        due("no place", x.fault(true), NONE);
+        due("no bytes", x.count(18), 0);
+        due("again", x.again(1), true);
+        due("3", x.fault(false), 3);
+        due("gap 44", x.read(), 1);
+        due("44", x.gapOf(0, 0), 44);
+        due("no FAULT", x.fault(false), 0);
+    }
+
     @Boundaries.Sentence(promise = 34, says = "is kept as k (each by itself, the later one in place of the earlier one)")
     static void eachByItself() {
         StaggerRadar x = new StaggerRadar();
@@ -238,6 +263,79 @@ public final class KeptBoundariesTest {
         due("UNDONE", x.undo(), 7);
         before[17] = 7;
         Boundaries.dueSame("questions about one GAP more", Boundaries.told(x), before);
+    }
+
+    private static final int QUESTIONS = 42;
+
+    private static int ask(StaggerRadar x, int question) {
+        switch (question) {
+            case 0: return x.count(11);
+            case 1: return x.count(12);
+            case 2: return x.count(13);
+            case 3: return x.count(14);
+            case 4: return x.count(15);
+            case 5: return x.count(16);
+            case 6: return Boundaries.gapOf(x, 0, 1);
+            case 7: return Boundaries.gapOf(x, 1, 2);
+            case 8: return Boundaries.gapOf(x, 0, 3);
+            case 9: return Boundaries.targetOf(x, 0, 4);
+            case 10: return Boundaries.targetOf(x, 0, 5);
+            case 11: return Boundaries.targetOf(x, 0, 6);
+            case 12: return x.blind(6);
+            case 13: return x.dark(1);
+            case 14: return x.period();
+            case 15: return x.reach(3, 1);
+            case 16: return x.joined(3, 5, -1, 2, 1);
+            case 17: return x.joined(-1, 5, 3, -1, -1);
+            case 18: return x.at(0, 3, false);
+            case 19: return x.at(1, 5, true);
+            case 20: return x.hits(53);
+            case 21: return x.found(1, false);
+            case 22: return x.found(1, true);
+            case 23: return x.makers(53);
+            case 24: return x.picture(0, false);
+            case 25: return x.picture(1, true);
+            case 26: return x.pairs(0);
+            case 27: return x.pairs(1);
+            case 28: return x.pairs(2);
+            case 29: return x.track(NONE, 0);
+            case 30: return x.order(9, 0);
+            case 31: return x.order(9, 10);
+            case 32: return x.choose(3, 10, 20, 0);
+            case 33: return x.choose(2, 10, 20, 1);
+            case 34: return x.choose(4, 10, 20, 13);
+            case 35: return x.more(false);
+            case 36: return x.more(true);
+            case 37: return x.shaken(1, true);
+            case 38: return x.dwell(7, 9, 2, 3);
+            case 39: return x.dwell(8, 20, 1, 1);
+            case 40: return x.dwell(9, 5, 3, 4);
+            default: return x.until(0, 50);
+        }
+    }
+
+    @Boundaries.Sentence(promise = 30, says = "Questions change nothing (what was asked earlier, of whatever there was, is of no matter).")
+    static void askedInAnyOrder() {
+        String[] texts = {"gap 10;gap 12;go 53 7 20;come 113 6 3;", "gap 11;gap 13;gap 15;gap 17;need 3;go 60 3 9;go 71 2 9;",
+            "", "gap 30;need 1;limit 1000;pulse 0;go 60 7 9;", "gap 4;gap 9;gap 20;gap 44;gap 60;notch 5;go 53 1 1;",
+            "span 200;wave 97;need 1;go 53 7 1;go 62 5 1;go 171 7 1;", "gap 5;gap 7;floor 9;limit 60;go 33 7 4;go 68 7 5;"};
+        for (int i = 0; i < texts.length; i++) {
+            for (int j = 0; j < texts.length; j++) {
+                StaggerRadar x = Boundaries.radarOf(texts[i]);
+                for (int question = 0; question < QUESTIONS; question++) {
+                    ask(x, question);
+                }
+                Boundaries.read(x, texts[j]);
+                for (int question = QUESTIONS - 1; question >= 0; question--) {
+                    int alone = ask(Boundaries.radarOf(texts[j]), question);
+                    due("question " + question + " of " + texts[j], ask(x, question), alone);
+                }
+                for (int question = 0; question < QUESTIONS; question += 5) {
+                    int alone = ask(Boundaries.radarOf(texts[j]), question);
+                    due("once more, question " + question + " of " + texts[j], ask(x, question), alone);
+                }
+            }
+        }
     }
 
     @Boundaries.Sentence(promise = 5, says = "Refused calls change nothing.")

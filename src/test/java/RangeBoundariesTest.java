@@ -173,6 +173,24 @@ public final class RangeBoundariesTest {
         due("FLOOR is of no matter", one().at(0, 3, true), 20);
     }
 
+    @Boundaries.Sentence(promise = 21, says = "TARGETS SEEN at a PLACE (no more when they went, moved or are SEEN no more)")
+    static void seenNoMore() {
+        StaggerRadar x = one();
+        due("at 3", x.at(0, 3, false), 1);
+        x.move(3);
+        due("at 3 no more", x.at(0, 3, false), 0);
+        due("54, at 4", x.at(0, 4, false), 1);
+        x.set(PULSE, 5);
+        due("hidden", x.at(0, 4, false), 0);
+        due("hidden", x.at(0, 4, true), 0);
+        x.undo();
+        due("seen again", x.at(0, 4, false), 1);
+        x.leave(0);
+        due("it went", x.at(0, 4, false), 0);
+        due("it went", x.at(0, 4, true), 0);
+        due("it went", x.makers(54), 0);
+    }
+
     @Boundaries.Sentence(promise = 21, says = "SEEN: the PLACE is PULSE or more")
     static void atPulse() {
         for (int pulse = 0; pulse <= 9; pulse++) {
@@ -218,6 +236,21 @@ public final class RangeBoundariesTest {
         due("199 is enough", x.hits(53), 2);
         x.set(FLOOR, 200);
         due("199 is not enough", x.hits(53), 0);
+    }
+
+    @Boundaries.Sentence(promise = 22, says = "An ECHO: a PLACE of a GAP (0, too, and the last one)")
+    static void echoAtFirstAndLastPlace() {
+        StaggerRadar x = radarOf("pulse 0;wave 61;gap 10;gap 60;go 60 7 1;go 119 7 1;");
+        due("0 and 9 of 10", x.gapOf(0, 1), 2);
+        due("0 and 59 of 60", x.gapOf(1, 1), 2);
+        due("in all", x.count(12), 4);
+        due("PAIRINGS", x.pairs(0), 4);
+        due("0", x.hits(0), 3);
+        due("59", x.hits(59), 3);
+        due("9", x.hits(9), 1);
+        x.set(PULSE, 1);
+        due("9 of 10", x.gapOf(0, 1), 1);
+        due("in all", x.count(12), 2);
     }
 
     // ---- promise 23
@@ -376,6 +409,71 @@ public final class RangeBoundariesTest {
         due("0 is the least of all", radarOf("pulse 0;gap 10;gap 12;go 60 7 1;").picture(0, false), 0);
     }
 
+    @Boundaries.Sentence(promise = 25, says = "any number below LIMIT (1 to 1000)")
+    static void pictureByLargestLimit() {
+        // By 59 and 60, 999 is alone below 3540.
+        StaggerRadar x = radarOf("wave 61;gap 59;gap 60;limit 1000;go 999 7 1;");
+        due("999", x.picture(0, false), 999);
+        due("999 alone", x.picture(1, false), NONE);
+        x.set(LIMIT, 999);
+        due("it is not below", x.picture(0, false), NONE);
+        StaggerRadar y = radarOf("pulse 0;need 1;gap 4;gap 10;limit 1000;go 1000 7 1;");
+        due("0", y.picture(0, false), 0);
+        due("by both", y.picture(0, true), 2);
+        due("1000 is not below", y.picture(1, false), NONE);
+        due("1000 is 0 of 4 and 10, FOUND: 250 and 100 less 50", y.count(13), 300);
+        StaggerRadar z = radarOf("wave 61;gap 59;gap 60;limit 300;go 299 7 1;");
+        due("299", z.picture(0, false), 299);
+        z.set(LIMIT, 299);
+        due("299 is not below 299", z.picture(0, false), NONE);
+    }
+
+    @Boundaries.Sentence(promise = 25, says = "its HITS are free no more (those that are taken are not counted to another one)")
+    static void takenHits() {
+        // 7 is heard by all three; 17 at 7 of 10 like it, and by 11 and 13 at 6 and 4.
+        StaggerRadar x = radarOf("wave 61;gap 10;gap 11;gap 13;limit 20;go 7 7 1;go 17 7 1;");
+        due("HITS of 17", x.hits(17), 7);
+        due("7 comes first", x.picture(0, false), 7);
+        due("it takes three", x.picture(0, true), 3);
+        due("17 comes next", x.picture(1, false), 17);
+        due("two are free", x.picture(1, true), 2);
+        due("no more", x.picture(2, false), NONE);
+        x.set(NEED, 3);
+        due("two are too few", x.picture(1, false), NONE);
+        due("though it is FOUND", x.found(1, false), 17);
+        StaggerRadar y = radarOf("wave 61;need 1;gap 10;gap 11;limit 20;go 7 7 1;go 17 7 1;");
+        due("7 by both", y.picture(0, true), 2);
+        due("6 of 11 is free: 6 ahead of 17", y.picture(1, false), 6);
+        y.set(LIMIT, 6);
+        due("6 is not below", y.count(16), 0);
+    }
+
+    @Boundaries.Sentence(promise = 25, says = "PICTURE: one number for each ECHO (40 of them)")
+    static void forty() {
+        // Each is heard at five places below 56, no place like another: number and place are the same there.
+        int[] ranges = {74, 156, 433, 445, 1510, 1907, 2133, 2843};
+        StaggerRadar x = radarOf("wave 61;need 1;limit 56;gap 56;gap 57;gap 58;gap 59;gap 60;");
+        boolean[] heard = new boolean[56];
+        for (int range : ranges) {
+            x.target(range, 7, 1);
+            for (int gap = 56; gap <= 60; gap++) {
+                heard[range % gap] = true;
+            }
+        }
+        due("in the PICTURE", x.count(16), 40);
+        int k = 0;
+        for (int n = 0; n < 56; n++) {
+            if (heard[n]) {
+                due("number " + k, x.picture(k, false), n);
+                due("its HITS " + k, x.picture(k, true), 1);
+                k++;
+            }
+        }
+        due("40 there are", k, 40);
+        due("no 41st", x.picture(40, false), NONE);
+        due("no 41st", x.picture(40, true), NONE);
+    }
+
     @Boundaries.Sentence(promise = 25, says = "its HITS are free no more (as many as there can be: one number for each ECHO)")
     static void oneForEachEcho() {
         // By NEED 1 and below 50, ranges from 200 on are heard at five unlike places each.
@@ -449,6 +547,20 @@ public final class RangeBoundariesTest {
         due("four PAIRINGS", y.pairs(0), 4);
         due("1 and 2, 2 and 1 are never JOINED", y.pairs(1), 2);
         due("0 below LIMIT 1", radarOf("pulse 0;gap 4;gap 6;limit 1;go 12 7 1;").pairs(1), 1);
+    }
+
+    @Boundaries.Sentence(promise = 26, says = "JOINED to the least number, below LIMIT (of numbers beyond REACH none is the least)")
+    static void joinedBelowReach() {
+        due("of one GAP", radarOf("gap 10;go 3 7 1;").pairs(1), 1);
+        due("33 of 5 and 7, REACH 35", radarOf("wave 61;gap 5;gap 7;go 33 7 1;").pairs(1), 1);
+        due("34, the last below REACH", radarOf("wave 61;gap 5;gap 7;limit 35;go 34 7 1;").pairs(1), 1);
+        due("34 is not below 34", radarOf("wave 61;gap 5;gap 7;limit 34;go 34 7 1;").pairs(1), 0);
+        due("0, not REACH, too", radarOf("pulse 0;wave 61;gap 5;gap 7;go 35 7 1;").pairs(1), 1);
+        due("0 is a GHOST", radarOf("pulse 0;wave 61;gap 5;gap 7;go 35 7 1;").pairs(2), 1);
+        due("999", radarOf("wave 61;gap 59;gap 60;limit 1000;go 999 7 1;").pairs(1), 1);
+        due("999 is not below", radarOf("wave 61;gap 59;gap 60;limit 999;go 999 7 1;").pairs(1), 0);
+        due("1000 is not below", radarOf("wave 61;gap 59;gap 60;limit 1000;go 1000 7 1;").pairs(1), 0);
+        due("300", radarOf("wave 61;gap 59;gap 58;limit 301;go 300 7 1;").pairs(1), 1);
     }
 
     // ---- promise 27
@@ -590,6 +702,80 @@ public final class RangeBoundariesTest {
             x.target(1, 7, 1);
             lookAt(x, one[1]);
             due(one[0] + ", " + one[1] + " by " + one[2], x.track(0, 10), one[3]);
+        }
+        StaggerRadar later = line();
+        later.move(1000);
+        lookAt(later, 20);
+        later.move(2);
+        lookAt(later, 30);
+        due("the first LOOK is not at 0", later.track(0, 10), 80);
+        later.move(6);
+        lookAt(later, 61);
+        due("30 and 61 are in line", later.track(NONE, 0), 1);
+        due("41 by 8, from the first one to the last one", later.track(0, 10), 82);
+    }
+
+    /** Targets at those ranges alone, a look, and time goes on. */
+    private static void lookAtAll(StaggerRadar x, int time, int... ranges) {
+        while (x.count(8) > 0) {
+            x.leave(0);
+        }
+        for (int range : ranges) {
+            x.target(range, 7, 9);
+        }
+        due("numbers", x.look(), ranges.length);
+        x.move(time);
+    }
+
+    /** Each way to take one number of each look, in order, that is in line; asks x for each of them. */
+    private static void dueTracks(StaggerRadar x, int[] times, int[]... looks) {
+        int last = looks.length - 1;
+        int[] path = new int[looks.length];
+        int k = 0;
+        int all = 1;
+        for (int[] look : looks) {
+            all *= look.length;
+        }
+        for (int i = 0; i < all; i++) {
+            int rest = i;
+            for (int look = last; look >= 0; look--) {
+                path[look] = looks[look][rest % looks[look].length];
+                rest /= looks[look].length;
+            }
+            int whole = times[last] - times[0];
+            boolean straight = true;
+            for (int look = 0; look <= last; look++) {
+                int apart = (path[look] - path[0]) * whole - (path[last] - path[0]) * (times[look] - times[0]);
+                straight &= Math.abs(apart) <= whole;
+            }
+            if (straight) {
+                for (int look = 0; look <= last; look++) {
+                    due("TRACK " + k + ", LOOK " + look, x.track(k, look), path[look]);
+                }
+                due("PACE of " + k, x.track(k, 10), 16 * (path[last] - path[0]) / whole);
+                k++;
+            }
+        }
+        due("TRACKS", x.track(NONE, 0), k);
+        due("no more", x.track(k, 0), NO_TRACK);
+    }
+
+    @Boundaries.Sentence(promise = 27, says = "one number of each LOOK (unlike many of each; the oldest one gone)")
+    static void unlikeLooks() {
+        int[][] looks = {{20, 21}, {19, 21, 22}, {20}, {18, 20, 21, 22, 25}, {21, 22, 24}, {20, 30}, {22, 23, 24, 26}};
+        int[] times = {5, 6, 8, 9, 13, 14, 20};
+        for (int from = 0; from < looks.length; from++) {
+            for (int size = 2; size <= 4 && from + size <= looks.length; size++) {
+                StaggerRadar x = line();
+                int first = size == 4 ? 0 : from;
+                x.move(times[first]);
+                for (int i = first; i < from + size; i++) {
+                    int next = i + 1 < looks.length ? times[i + 1] - times[i] : 1;
+                    lookAtAll(x, next, looks[i]);
+                }
+                int[][] some = java.util.Arrays.copyOfRange(looks, from, from + size);
+                dueTracks(x, java.util.Arrays.copyOfRange(times, from, from + size), some);
+            }
         }
     }
 }

@@ -411,6 +411,31 @@ public final class TextBoundariesTest {
         fault(many("gap", 133) + "g", 1, 0);
     }
 
+    @Boundaries.Sentence(promise = 4, says = "1 the first token that can not stand there (a word of which one letter is another)")
+    static void spelling() {
+        for (String word : new String[] {"gap", "wave", "notch", "pulse", "limit", "need", "span", "floor", "come", "go"}) {
+            String numbers = word.equals("come") || word.equals("go") ? " 5 5 5;" : " 5;";
+            for (int i = 0; i < word.length(); i++) {
+                char before = word.charAt(i) == 'a' ? 'z' : (char) (word.charAt(i) - 1);
+                char after = word.charAt(i) == 'z' ? 'a' : (char) (word.charAt(i) + 1);
+                fault("\n" + word.substring(0, i) + before + word.substring(i + 1) + numbers, 1, 1);
+                fault("\n" + word.substring(0, i) + after + word.substring(i + 1) + numbers, 1, 1);
+            }
+        }
+    }
+
+    @Boundaries.Sentence(promise = 4, says = "TOKENS, each as long as it goes")
+    static void asLongAsItGoes() {
+        fault("gap 1 0;", 1, 6);
+        fault("ga p10;", 1, 0);
+        fault("gap1 0;", 1, 5);
+        fault("go 1 11;", 1, 7);
+        fault("go111 1 1;", 0, NONE);
+        fault("gap10wave 7;", 1, 5);
+        fault("gap10;wave7;go1 1 1;", 0, NONE);
+        fault("gap 10 ; ;", 1, 9);
+    }
+
     @Boundaries.Sentence(promise = 4, says = "1 a byte that begins none")
     static void strangeBytes() {
         int[] bytes = {1, 9, 11, 13, 31, 33, 47, 58, 60, 64, 65, 71, 90, 91, 95, 96, 123, 127, 128, 160, 200, 255};
