@@ -313,10 +313,10 @@ public final class ActBoundariesTest {
     @Boundaries.Sentence(promise = 9, says = "NOW is more, 999999 at most (no run of 512 calls comes to it)")
     static void now() {
         StaggerRadar x = new StaggerRadar();
-        for (int i = 1; i <= 510; i++) {
+        for (int i = 1; i <= 511; i++) {
             due("move " + i, x.move(1000), 0);
         }
-        due("NOW", x.count(9), 510000);
+        due("NOW, by the 512th call", x.count(9), 511000);
     }
 
     @Boundaries.Sentence(promise = 9, says = "a TARGET whose SPOT would be below 0 or above 47999 is there no more")
@@ -474,6 +474,37 @@ public final class ActBoundariesTest {
             due("each with each", x.track(Boundaries.NONE, 0), size * size);
             due("the last one", x.track(size * size - 1, 1), size == 0 ? Boundaries.NO_TRACK : size);
         }
+    }
+
+    @Boundaries.Sentence(promise = 10, says = "the first 12 numbers of the PICTURE, as they come")
+    static void asTheyCome() {
+        // 7 and 9 are heard by all three, 3 and 5 by two of them: SPEED 6 is BLIND by 10.
+        StaggerRadar x = radarOf("gap 10;gap 11;gap 13;go 7 7 1;go 3 6 1;go 9 7 1;go 5 6 1;");
+        int[] numbers = {7, 9, 3, 5};
+        for (int i = 0; i < 4; i++) {
+            due("in the PICTURE", x.picture(i, false), numbers[i]);
+        }
+        due("numbers", x.look(), 4);
+        x.set(Boundaries.PULSE, 0);
+        x.move(1);
+        due("numbers", x.look(), 4);
+        for (int k = 0; k < 16; k++) {
+            due("TRACK " + k, x.track(k, 0) * 10 + x.track(k, 1), numbers[k / 4] * 10 + numbers[k % 4]);
+        }
+        // 14 numbers, of which the two that both hear come first though they are the largest.
+        StaggerRadar y = radarOf("need 1;limit 40;gap 40;gap 41;go 38 1 1;go 39 1 1;");
+        for (int t = 0; t < 6; t++) {
+            y.target(42 + 2 * t, 1, 1);
+        }
+        due("in the PICTURE", y.count(16), 14);
+        due("12 of them", y.look(), 12);
+        y.move(1);
+        y.look();
+        due("38", y.track(0, 0), 38);
+        due("39", y.track(12, 0), 39);
+        due("1", y.track(24, 0), 1);
+        due("10 is the last one", y.track(143, 0), 10);
+        due("11 and 12 are not among them", y.track(144, 0), Boundaries.NO_TRACK);
     }
 
     @Boundaries.Sentence(promise = 10, says = "A LOOK: how many numbers it has (none, too)")

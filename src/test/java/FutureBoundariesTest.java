@@ -667,6 +667,22 @@ public final class FutureBoundariesTest {
         }
     }
 
+    @Boundaries.Sentence(promise = 32, says = "HIDDEN, if any PULSE (0 to n - 1): one that would be sent has no ECHO and hides none")
+    static void hiddenByThoseSent() {
+        for (int range = 0; range <= 24; range++) {
+            StaggerRadar x = radarOf("gap 4;pulse 9;go " + range + " 7 1;");
+            for (int n = 1; n <= 3; n++) {
+                // Sent at 0, 4, 8; the latest one hides what comes less than 9 behind it.
+                int due = 0;
+                for (int i = 0; i < n; i++) {
+                    due += 4 * i + range < 4 * (n - 1) + 9 ? 1 : 0;
+                }
+                due(range + " of " + n, x.dwell(1, n, 0, 3), due);
+                due(range + " of " + n + ", an ORDER", x.order(n, 0), due);
+            }
+        }
+    }
+
     @Boundaries.Sentence(promise = 32, says = "4: the longest time between two PULSES (0 of one)")
     static void longest() {
         StaggerRadar x = full();

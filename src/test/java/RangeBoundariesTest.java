@@ -134,6 +134,12 @@ public final class RangeBoundariesTest {
         due("even and odd", one().joined(4, 3, -1, -1, -1), NONE);
         due("of 30 and 60: apart", radarOf("gap 30;gap 60;").joined(1, 2, -1, -1, -1), NONE);
         due("of 30 and 60: 59", radarOf("gap 30;gap 60;").joined(29, 59, -1, -1, -1), 59);
+        StaggerRadar four = radarOf("gap 4;gap 6;gap 7;gap 9;");
+        for (int place = -1; place < 9; place++) {
+            due("1 of 4 and 2 of 6, whatever the others are", four.joined(1, 2, place, place, place), NONE);
+            due("4 of 4, whatever the others are", four.joined(4, place, place, -1, place), NONE);
+            due("1 of 6 and 2 of 9, whatever the others are", four.joined(-1, 1, place, 2, place), NONE);
+        }
     }
 
     // ---- promise 21
@@ -664,6 +670,35 @@ public final class RangeBoundariesTest {
             }
             due(one[0] + ", " + one[1] + ", " + one[2] + ", " + one[3], x.track(NONE, 0), one[4]);
         }
+    }
+
+    @Boundaries.Sentence(promise = 27, says = "TRACKS: how many (four LOOKS of 12 numbers)")
+    static void mostTracks() {
+        // Eight targets at 16 places below 40: 1 to 12 are the first ones.
+        StaggerRadar x = radarOf("need 1;limit 40;gap 40;gap 41;");
+        for (int t = 0; t < 8; t++) {
+            x.target(42 + 2 * t, 1, 1);
+        }
+        for (int i = 0; i < 4; i++) {
+            due("numbers", x.look(), 12);
+            x.move(1);
+        }
+        int size = 0;
+        int middle = 0;
+        for (int row = 0; row < 12 * 12 * 12 * 12; row++) {
+            int a = row / 1728, b = row / 144 % 12, c = row / 12 % 12, d = row % 12;
+            if (Math.abs(3 * (b - a) - (d - a)) <= 3 && Math.abs(3 * (c - a) - 2 * (d - a)) <= 3) {
+                middle = size == 300 ? 1000000 * (a + 1) + 10000 * (b + 1) + 100 * (c + 1) + d + 1 : middle;
+                size++;
+            }
+        }
+        due("TRACKS", x.track(NONE, 0), size);
+        due("TRACK 300", x.track(300, 0) * 1000000 + x.track(300, 1) * 10000 + x.track(300, 2) * 100 + x.track(300, 3), middle);
+        for (int look = 0; look < 4; look++) {
+            due("the first", x.track(0, look), 1);
+            due("the last", x.track(size - 1, look), 12);
+        }
+        due("no more", x.track(size, 0), NO_TRACK);
     }
 
     @Boundaries.Sentence(promise = 27, says = "In order: as the numbers come in the first LOOK, then in the second one, and so on")
